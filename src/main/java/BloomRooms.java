@@ -988,9 +988,15 @@ public final class BloomRooms {
         }
 
         private void spread(int from, int to, int last, int worth) {
-            for (int sum = 0; sum <= last; sum++) {
-                table[to + Math.min(target, sum + worth)] += table[from + sum];
+            int under = Math.min(last + 1, Math.max(0, target - worth));
+            for (int sum = 0; sum < under; sum++) {
+                table[to + sum + worth] += table[from + sum];
             }
+            long beyond = 0;
+            for (int sum = under; sum <= last; sum++) {
+                beyond += table[from + sum];
+            }
+            table[to + target] += beyond;
         }
 
         void close(int choose) {

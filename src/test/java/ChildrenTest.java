@@ -112,6 +112,13 @@ public final class ChildrenTest {
         due.is("there", x.of(0, 4), 1);
         due.is("not there", x.of(1, 4), 0);
         due.is("how many are gone", x.count(10), 1);
+        x.word(0, 1);
+        due.is("the first is named", x.count(9), 1);
+        x.word(0, 0);
+        x.word(1, 1);
+        due.is("one that is gone is named", x.count(9), 1);
+        x.gone(0);
+        due.is("both are gone", x.count(10), 2);
         due.is("children", x.count(1), 2);
         due.is("-5", x.status(5), 1);
     }
@@ -122,7 +129,7 @@ public final class ChildrenTest {
         x.room(11, false);
         x.child(0, 1, 0);
         x.child(1, 1, 0);
-        Due.say(x, 0, "named moves 33;true moves 7;bad moves - 33;heard moves 0;known 10;hears 50;"
+        Due.say(x, 0, "named moves 33;true moves 7;bad moves - 33;heard moves 40;known 10;hears 50;"
                 + "warmth gives 7 grows 33;time gives 9 grows 77;harder gives 3 grows 99;");
         x.word(0, 1);
         // 33 times 70 by 100
@@ -142,7 +149,9 @@ public final class ChildrenTest {
         x.word(0, 4);
         due.is("marked hold", x.of(0, 5), 0);
         x.word(0, 5);
-        due.is("heard grows", x.of(0, 6), 50);
+        due.is("heard hold", x.of(0, 5), 28);
+        // 19, 25, 8 are given: 6.27, 19.25, 7.92 of these, and 50
+        due.is("heard grows", x.of(0, 6), 82);
         x.word(1, 1);
         due.is("hold of one known for 11 weeks", x.of(1, 5), 0);
     }

@@ -87,6 +87,8 @@ public final class FilmsTest {
         due.is("but not for 1", x.enough(0, 1), 0);
         due.fraction("the fraction stays", x, 4, 5);
         due.is("for less than 0", x.enough(1, 0), 1);
+        Due.say(x, 0, "warmth gives 1 grows 50;time gives 1 grows 10;harder gives 1 grows 7;floor 54;");
+        due.is("ends count too", x.enough(0, 1), 0);
         due.is("no such test", x.enough(6, 6), -2);
         due.is("no such test", x.enough(0, -1), -2);
         due.is("a is b", x.enough(0, 0), -3);
@@ -138,6 +140,10 @@ public final class FilmsTest {
         Due.say(x, 1, "out if not told;");
         x.same(2);
         due.fraction("rules do not count", x, 6, 1);
+        x.tell(0, 2, 0);
+        x.mark(0, 2, 0);
+        x.same(2);
+        due.fraction("0 is a mark and points", x, 1, 1);
         due.is("another test", x.same(1), 0);
         due.is("test 6", x.same(6), -2);
         due.is("test -1", x.same(-1), -2);

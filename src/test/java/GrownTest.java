@@ -187,6 +187,32 @@ public final class GrownTest {
         due.is("no room is named", x.effect(0, 1, 2), 0);
         due.is("but a child is", x.effect(0, 1, 0), 1);
         manyRooms();
+        closeRooms();
+    }
+
+    private static void closeRooms() {
+        BloomRooms x = new BloomRooms();
+        for (int r = 0; r < 4; r++) {
+            x.room(0, false);
+        }
+        addRoom(x, 0, 3, 1, 0, 0);
+        addRoom(x, 1, 3, 1, 1, 0);
+        addRoom(x, 2, 0, 0);
+        addRoom(x, 3, 0, 1);
+        // 333 and 666 are 999; 0 and 1000 are more, as are 333 and 1000, 666 and 1000
+        x.effect(0, 1, 2);
+        due.fraction("by one more", x, 2, 3);
+        x.word(0, 0);
+        x.word(1, 0);
+        x.word(2, 0);
+        x.word(3, 0);
+        x.word(4, 0);
+        x.word(5, 0);
+        x.word(6, 1);
+        x.word(7, 1);
+        // 0 and 1000 are named: 333 and 666 are one less
+        x.effect(0, 1, 2);
+        due.fraction("by one less", x, 1, 2);
     }
 
     private static void manyRooms() {

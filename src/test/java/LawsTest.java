@@ -141,6 +141,11 @@ public final class LawsTest {
         x.gone(7);
         due.is("a child was told bad", x.say(0, 1), 1);
         x.word(7, 2);
+        due.is("no more", x.say(0, 1) != 1 ? 1 : 0, 1);
+        x.word(3, 0);
+        x.word(0, 3);
+        due.is("the first was told bad", x.say(0, 1), 1);
+        x.word(0, 1);
         x.tell(7, 0, 100);
         x.tell(7, 1, 100);
         x.hair(0, 0);
@@ -163,6 +168,12 @@ public final class LawsTest {
         due.is("clean is 0", x.say(0, 1), 2);
         x.tell(0, 1, 99);
         due.is("clean is below 0", x.say(0, 1), 2);
+        Due.say(x, 0, "");
+        x.tell(0, 1, 101);
+        x.tell(1, 1, 101);
+        x.tell(2, 1, 101);
+        due.is("1 is more", x.say(0, 1), 5);
+        x.tell(0, 1, 99);
         x.tell(1, 1, 100);
         x.tell(2, 1, 100);
         due.is("it isn't more", x.say(0, 1), 3);

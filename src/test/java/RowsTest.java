@@ -7,6 +7,7 @@ public final class RowsTest {
         numbers();
         pours();
         images();
+        imagesOfOthers();
         imagesApart();
         due.end();
     }
@@ -185,10 +186,83 @@ public final class RowsTest {
         due.is("restore 2", x.restore(2), -2);
         due.is("restore -1", x.restore(-1), -2);
         due.is("nobody", x.image(1), 0);
+        x.film(1, true, 1);
+        x.film(1, false, 1);
+        x.mark(1, 1, 1);
+        x.trial(9, -9, 9, false);
         change(x);
         x.restore(1);
         due.is("nobody again", x.count(0) + x.count(1) + x.count(2) + x.count(5) + x.count(6) + x.count(7), 0);
         due.is("no law is kept", x.likely(0, 1), -1);
+    }
+
+    /** Each of two images holds all of its own, whatever came in its place meanwhile. */
+    private static void imagesOfOthers() {
+        BloomRooms x = new BloomRooms();
+        x.image(0);
+        history(x, 1);
+        x.image(1);
+        long first = seen(x);
+        x.restore(0);
+        history(x, 2);
+        x.image(0);
+        long second = seen(x);
+        due.is("others", first != second ? 1 : 0, 1);
+        for (int n = 0; n < 2; n++) {
+            x.restore(1);
+            due.is("the first", seen(x), first);
+            due.is("its hold", x.of(0, 5), 0);
+            due.is("its hold", x.of(1, 5), 10);
+            due.is("its room", x.of(1, 0), 1);
+            due.is("its grade", x.of(0, 1), 1);
+            due.is("its gift", x.of(0, 2), 10);
+            x.hair(0, 0);
+            due.fraction("its films", x, -10, 1);
+            due.is("no films", x.hair(1, 0), 0);
+            due.is("its marks", x.same(0), 0);
+            x.same(1);
+            due.fraction("its marks", x, -5, 1);
+            x.curve(false);
+            due.fraction("its trials", x, -11, 14);
+            due.is("none printed", x.curve(true), 0);
+            due.is("its kept law", x.fits(0, 0, 1), 1);
+            x.restore(0);
+            due.is("the second", seen(x), second);
+            due.is("its hold", x.of(0, 5), 10);
+            due.is("its room", x.of(1, 0), 0);
+            due.is("its grade", x.of(0, 1), 2);
+            due.is("its gift", x.of(0, 2), 20);
+            x.hair(1, 0);
+            due.fraction("its films", x, 20, 1);
+            due.is("no films", x.hair(0, 0), 0);
+            x.same(0);
+            due.fraction("its marks", x, -2, 1);
+            x.curve(true);
+            due.fraction("its trials", x, 13, 51);
+            due.is("its kept law", x.fits(0, 0, 1), 2);
+        }
+    }
+
+    private static void history(BloomRooms x, int n) {
+        x.room(2 - n, n == 2);
+        x.room(0, n == 1);
+        for (int c = 0; c < 3; c++) {
+            x.child(n == 1 ? c % 2 : 0, n, 10 * n);
+            x.tell(c, 0, 50);
+            x.tell(c, 1, 50 + 4 * c);
+        }
+        x.word(0, 1);
+        x.word(1, 5);
+        Due.say(x, 0, n == 1 ? "known 100;named moves 20;heard moves 20;" : "named moves 20;noise 3;");
+        x.keep(0);
+        x.year();
+        x.film(n - 1, n == 2, 10 * n);
+        x.film(n - 1, n == 1, 10 * n - 10 * (n == 1 ? 1 : 2));
+        x.mark(n == 1 ? 0 : 1, n == 1 ? 1 : 0, n == 1 ? 47 : 50);
+        x.mark(n == 1 ? 2 : 0, n == 1 ? 1 : 0, n == 1 ? 50 : 52);
+        x.trial(n, n * n, n, n == 2);
+        x.trial(2 * n + 1, n * n + n, 1, n == 2);
+        x.trial(0, 5, 1, n == 2);
     }
 
     private static void imagesApart() {

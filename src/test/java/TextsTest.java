@@ -34,12 +34,18 @@ public final class TextsTest {
         x.feed(-1, 0, 0, 0, 0);
         due.is("byte 255", x.text(0, 20), -11);
         due.is("the tape is empty after a fault", x.count(8), 0);
-        due.is("refused", x.status(1), 1);
+        due.is("refused once by a fault", x.status(1), 1);
         due.is("refused by -2", x.status(2), 2);
         due.is("refused by -3", x.status(3), 3);
         due.is("refused by -4", x.status(4), 1);
         due.is("no such status", x.status(0), -1);
         due.is("no such status", x.status(8), -1);
+        x.feed(0x67696674, 0x20313233, 0x343b2020, 0x20202020, 0x20202020);
+        due.is("a text ends in a number", x.text(0, 7), -12);
+        due.is("what is behind it doesn't count", x.fault(1), 7);
+        x.feed(0x6f757420, 0x69662074, 0x6f6c6478, 0x20202020, 0x20202020);
+        due.is("a text ends in a word", x.text(1, 11), -12);
+        due.is("what is behind it doesn't count", x.fault(1), 11);
         due.is("no such fault", x.fault(2), -1);
         due.is("no such fault", x.fault(-1), -1);
     }
@@ -83,6 +89,12 @@ public final class TextsTest {
         wrong(x, 0, "gift1;gift 2 gift 3;", 2, 13);
         wrong(x, 0, "gifts 1;", 2, 0);
         wrong(x, 0, "gif 1;", 2, 0);
+        wrong(x, 0, "zeal 1;", 2, 0);
+        wrong(x, 0, "gift 1; buzz", 2, 8);
+        wrong(x, 0, "`a`", 1, 0);
+        wrong(x, 0, "{}", 1, 0);
+        wrong(x, 0, "/0", 1, 0);
+        wrong(x, 0, ":9", 1, 0);
         wrong(x, 0, "moves 1;", 2, 0);
         wrong(x, 0, "gives 1;", 2, 0);
         wrong(x, 0, "grows 1;", 2, 0);
