@@ -50,9 +50,18 @@ public final class NaiveTest {
         return least + some(most - least + 1);
     }
 
-    /** Mostly within, now and then just outside. */
+    /** Mostly within, now and then just outside or far away. */
     private static int about(int least, int most) {
-        return some(25) == 0 ? (some(2) == 0 ? least - 1 : most + 1) : between(least, most);
+        switch (some(75)) {
+            case 0:
+                return least - 1;
+            case 1:
+                return most + 1;
+            case 2:
+                return new int[] {Integer.MIN_VALUE, Integer.MAX_VALUE, -1, 65536 + least, (int) state}[some(5)];
+            default:
+                return between(least, most);
+        }
     }
 
     private static boolean maybe() {
