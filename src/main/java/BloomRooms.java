@@ -970,16 +970,20 @@ public final class BloomRooms {
         }
 
         void open(int choose) {
-            int rows = Math.min(choose, MOST_CHOSEN);
+            int rows = rowsOf(choose);
             Arrays.fill(table, width, (rows + 1) * width, 0L);
             for (int j = 1; j <= rows; j++) {
                 reach[j] = NONE;
             }
         }
 
+        private static int rowsOf(int choose) {
+            return Math.max(0, Math.min(choose, MOST_CHOSEN));
+        }
+
         /** One more that may be chosen as one of so many; from above, so that it is not chosen twice. */
         void offer(int worth, int least, int most) {
-            for (int j = Math.min(most, MOST_CHOSEN); j >= Math.max(1, least); j--) {
+            for (int j = rowsOf(most); j >= Math.max(1, least); j--) {
                 spread((j - 1) * width, j * width, reach[j - 1], Math.max(0, worth));
                 if (reach[j - 1] >= 0) {
                     reach[j] = Math.max(reach[j], Math.min(target, reach[j - 1] + worth));
@@ -988,6 +992,9 @@ public final class BloomRooms {
         }
 
         private void spread(int from, int to, int last, int worth) {
+            if (from < 0 || to < from || last > target || target >= table.length - to) {
+                return;
+            }
             int under = Math.min(last + 1, Math.max(0, target - worth));
             for (int sum = 0; sum < under; sum++) {
                 table[to + sum + worth] += table[from + sum];
@@ -1000,7 +1007,7 @@ public final class BloomRooms {
         }
 
         void close(int choose) {
-            int row = Math.min(choose, MOST_CHOSEN);
+            int row = rowsOf(choose);
             System.arraycopy(table, row * width, table, 0, width);
             reach[0] = reach[row];
         }

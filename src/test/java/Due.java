@@ -1,3 +1,5 @@
+import java.util.Map;
+
 /** Counts the answers of one test that are not the ones that are due, and feeds texts to an object. */
 final class Due {
     private int wrong;
@@ -25,8 +27,23 @@ final class Due {
         }
     }
 
+    /** Each that is seen of an object is as wanted. */
+    void seen(String call, Map<String, Long> got, Map<String, Long> want) {
+        for (Map.Entry<String, Long> one : want.entrySet()) {
+            Long is = got.get(one.getKey());
+            is(call + ", then " + one.getKey(), is == null ? Long.MIN_VALUE : is, one.getValue());
+        }
+        is(call + ", then how much is seen", got.size(), want.size());
+    }
+
     /** Feeds a text, filled up with blanks, and has it read: what text answers. */
     static int say(BloomRooms x, int what, String text) {
+        feed(x, text);
+        return x.text(what, text.length());
+    }
+
+    /** Feeds a text, filled up with blanks to twenty bytes or a multiple of that. */
+    static void feed(BloomRooms x, String text) {
         StringBuilder full = new StringBuilder(text);
         while (full.length() % 20 != 0) {
             full.append(' ');
@@ -34,7 +51,6 @@ final class Due {
         for (int i = 0; i < full.length(); i += 20) {
             x.feed(four(full, i), four(full, i + 4), four(full, i + 8), four(full, i + 12), four(full, i + 16));
         }
-        return x.text(what, text.length());
     }
 
     private static int four(CharSequence text, int i) {
