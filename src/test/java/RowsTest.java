@@ -93,6 +93,10 @@ public final class RowsTest {
         x.write(0, 0, 1L << 32);
         due.is("as it is in 64 bits", x.pour(0, 5), -3);
         due.is("longer than the children", x.row(0, 0, 40) + x.pour(0, 4), 3);
+        x.row(0, 1, 40);
+        x.write(0, 3, 201);
+        x.write(0, 39, -2);
+        due.is("numbers behind those of the children are no points", x.pour(0, 4), 3);
     }
 
     /** An object with one of each thing. */
