@@ -548,6 +548,12 @@ public final class BoundsTest {
         }
         due.is("all are named", x.count(9), 40);
         due.is("all are gone", x.count(10), 40);
+        x.word(7, 0);
+        x.word(8, 2);
+        due.is("all but two are named", x.count(9), 38);
+        due.is("all are gone", x.count(10), 40);
+        x.word(7, 1);
+        x.word(8, 1);
         due.is("nobody is there", x.give(2, 0, false), 0);
         due.is("all are named still", x.deal(false, 0, 0), 40);
     }

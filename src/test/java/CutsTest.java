@@ -16,6 +16,7 @@ public final class CutsTest {
         noise();
         floorAndRoof();
         marks();
+        marksBehindThoseGone();
         drawsGoOnInOneRow();
         means();
         thousandths();
@@ -290,6 +291,30 @@ public final class CutsTest {
         BloomRooms x = one(0, false, 180, 4, "marks 50;");
         x.give(0, 1, true);
         due.is("200 at most", x.point(0, 0), 200);
+    }
+
+    /** The WORD that counts is its own, whoever before it is GONE. */
+    private static void marksBehindThoseGone() {
+        for (int gone = 0; gone < 16; gone++) {
+            for (int marked = 0; marked < 16; marked++) {
+                BloomRooms x = one(0, false, 100, 0, "marks 50;");
+                for (int c = 1; c < 4; c++) {
+                    x.child(0, 1, 100);
+                }
+                for (int c = 0; c < 4; c++) {
+                    x.word(c, (marked >> c & 1) == 1 ? 4 : 0);
+                    if ((gone >> c & 1) == 1) {
+                        x.gone(c);
+                    }
+                }
+                due.is("those there", x.give(0, 1, true), 4 - Integer.bitCount(gone));
+                for (int c = 0; c < 4; c++) {
+                    int points = (marked >> c & 1) == 1 ? 150 : 100;
+                    due.is("gone " + gone + " marked " + marked + " child " + c, x.point(c, 0),
+                            (gone >> c & 1) == 1 ? -1 : points);
+                }
+            }
+        }
     }
 
     /** A DRAW for each that is there, none for those GONE; for each CHILD that can be dealt to, for each ROOM. */

@@ -13,6 +13,7 @@ public final class FirstTest {
         newRow();
         goneChild();
         inPlaceOfEarlierOnes();
+        noneInPlaceOfAFraction();
         laterLinesInPlaceOfEarlierOnes();
         due.end();
     }
@@ -226,6 +227,37 @@ public final class FirstTest {
             due.is("199 is no end", x.read(0, 1, 2), 0);
             due.is("no rule", x.read(0, 1, 0), 3);
         }
+        eachLineAlone();
+    }
+
+    /** One LINE alone: what the others would say is 0, or 200 for the roof. */
+    private static void eachLineAlone() {
+        BloomRooms x = new BloomRooms();
+        x.room(20, true);
+        x.child(0, 1, 200);
+        for (int word = 1; word <= 5; word++) {
+            x.word(0, word);
+            Due.say(x, 0, new String[] {"named", "true", "bad", "marked", "heard"}[word - 1] + " moves 99;");
+            due.is("known is 0", x.of(0, 5), 99);
+            due.is("no way gives", x.given(0, 0) + x.given(0, 1) + x.given(0, 2), 0);
+            due.is("no way grows, hears is 0", x.of(0, 6), 0);
+        }
+        Due.say(x, 0, "heard moves 10;time gives 20 grows 10;");
+        due.is("time alone", x.given(0, 0) + x.given(0, 2), 0);
+        due.is("time alone", x.of(0, 6), 2);
+        Due.say(x, 0, "hears 7;");
+        due.is("hears alone", x.of(0, 6), 7);
+        x.word(0, 4);
+        x.give(0, 5, true);
+        due.is("no marks, no noise, no floor, a roof of 200", x.point(0, 0), 200);
+        Due.say(x, 0, "floor 3;");
+        x.give(0, 5, true);
+        due.is("a roof of 200 above a floor", x.point(0, 0), 200);
+        x.child(0, 1, 0);
+        Due.say(x, 0, "roof 150;");
+        x.give(0, 5, true);
+        due.is("a roof", x.point(0, 0), 150);
+        due.is("no floor below a roof", x.point(1, 0), 0);
     }
 
     private static void newTest() {
@@ -372,6 +404,44 @@ public final class FirstTest {
         due.is("the later image", x.count(2), 1);
         x.restore(0);
         due.is("the image stays", x.count(2), 1);
+    }
+
+    /** What is 0 over 0 is the FRACTION then, whatever it was before. */
+    private static void noneInPlaceOfAFraction() {
+        BloomRooms x = new BloomRooms();
+        x.trial(0, 0, 1, false);
+        x.trial(1, 7, 1, false);
+        for (int n = 0; n < 15; n++) {
+            due.is("one", x.curve(false), 1);
+            due.fraction("one", x, 7, 1);
+            due.is("none, " + n, none(x, n), 0);
+            due.fraction("none, " + n, x, 0, 0);
+            due.is("none, " + n, x.sure(), 0);
+        }
+    }
+
+    private static int none(BloomRooms x, int n) {
+        switch (n) {
+            case 5:
+                return x.paid();
+            case 6:
+            case 7:
+            case 8:
+                return x.hair(n - 6, 0);
+            case 9:
+                return x.hair(0, 1);
+            case 10:
+                return x.carried();
+            case 11:
+                return x.same(0);
+            case 12:
+                return x.curve(true);
+            case 13:
+            case 14:
+                return x.edge(false, n == 13);
+            default:
+                return x.effect(0, 1, n);
+        }
     }
 
     /** Each LINE counts in place of all earlier ones of its kind, and of no other kind. */

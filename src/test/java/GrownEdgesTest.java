@@ -8,18 +8,22 @@ public final class GrownEdgesTest {
         told();
         twelveRules();
         factsTogether();
+        eachFactBesideEachOther();
         pointsInBoth();
         ends();
         endsOfEachKind();
         cleanAndMade();
         anewOneByOne();
         anewInTwoRooms();
+        anewInEachRoom();
         anewOfTheGreatestSum();
         namedRooms();
         roomByRoomOneByOne();
+        roomsWithoutReadOnes();
         endsCountInAllButClean();
         best();
         bestOfTies();
+        bestOfGreatNumbers();
         fifteenLooks();
         paid();
         due.end();
@@ -151,6 +155,62 @@ public final class GrownEdgesTest {
             due.is(test + " of " + told + " " + room + " " + grade, x.grew(c, 0, 1), due3.holds(told, room, grade)
                     ? -1000 : 10);
         }
+    }
+
+    private static final String[] FACTS = {"told", "room 1", "grade 2", "known 6", "below 100", "above 120"};
+
+    /** Each FACT before and behind each, by and, by or, with and without not, in ( ) too. */
+    private static void eachFactBesideEachOther() {
+        for (int i = 0; i < FACTS.length; i++) {
+            for (int k = 0; k < FACTS.length; k++) {
+                int weeks = k % 2 == 0 ? 3 : 6;
+                BloomRooms x = ofAllKinds(weeks);
+                for (int bits = 0; bits < 8; bits++) {
+                    beside(x, weeks, i, k, bits);
+                }
+            }
+        }
+    }
+
+    private static void beside(BloomRooms x, int weeks, int i, int k, int bits) {
+        boolean notFirst = (bits & 1) == 1;
+        boolean notSecond = (bits & 2) == 2;
+        boolean both = (bits & 4) == 4;
+        String test = (notFirst ? "not " : "") + FACTS[i] + (both ? " and " : " or ") + (notSecond ? "not(" : "(")
+                + FACTS[k] + " and " + FACTS[i] + " or " + FACTS[k] + ")";
+        Due.say(x, 1, "out if " + test + ";");
+        int many = 0;
+        for (int c = 0; c < 36; c++) {
+            boolean first = holds(c, weeks, i) != notFirst;
+            boolean second = holds(c, weeks, k) != notSecond;
+            boolean out = both ? first && second : first || second;
+            many += out ? 0 : 1;
+            if (c % 7 == k) {
+                due.is(test + " of child " + c, x.grew(c, 0, 1), out ? -1000 : 10 - 20 * (c / 12));
+            }
+        }
+        due.is("read but for " + test, x.read(0, 1, 0), many);
+    }
+
+    private static boolean holds(int c, int weeks, int fact) {
+        int room = c / 2 % 3;
+        boolean[] all = {c % 2 == 1, room == 1, c / 6 % 2 == 1, room == 2 || room == 1 && weeks == 6, c / 12 == 0,
+            c / 12 == 2};
+        return all[fact];
+    }
+
+    /** 36 CHILDREN: told or not, of three ROOMS, of two GRADES, with three POINTS. */
+    private static BloomRooms ofAllKinds(int weeks) {
+        BloomRooms x = new BloomRooms();
+        x.room(3, false);
+        x.room(weeks, false);
+        x.room(6, false);
+        for (int c = 0; c < 36; c++) {
+            x.child(c / 2 % 3, 1 + c / 6 % 2, 0);
+            x.word(c, c % 2 == 1 ? 2 + c % 4 : 0);
+            tell(x, c, 0, 90 + 20 * (c / 12), 1, 100);
+        }
+        return x;
     }
 
     private static void pointsInBoth() {
@@ -302,23 +362,52 @@ public final class GrownEdgesTest {
                     tell(x, c, 0, 100, 1, 100 + grew[c]);
                     x.word(c, named >> c & 1);
                 }
-                int all = 0;
-                int asMuch = 0;
-                for (int set = 0; set < 64; set++) {
-                    int more = 0;
-                    for (int i = 0; i < 6; i++) {
-                        more += ((set >> i & 1) - (named >> i & 1)) * grew[i];
-                    }
-                    if (Integer.bitCount(set & 7) == Integer.bitCount(named & 7)
-                            && Integer.bitCount(set >> 3) == Integer.bitCount(named >> 3)) {
-                        all++;
-                        asMuch += more >= 0 ? 1 : 0;
-                    }
-                }
+                int[] ways = waysInTwoRooms(grew, 3, named);
                 due.is("anew", x.effect(0, 1, 1), 1);
-                isBy("anew in two rooms " + n + " " + named, x, asMuch, all);
+                isBy("anew in two rooms " + n + " " + named, x, ways[0], ways[1]);
             }
         }
+    }
+
+    /** Whatever the number of the ROOM: five CHILDREN in one, four in another. */
+    private static void anewInEachRoom() {
+        for (int room = 0; room < 18; room++) {
+            int other = (room + 7) % 18;
+            for (int named = 1; named < 511; named += 17) {
+                BloomRooms x = new BloomRooms();
+                for (int r = 0; r < 18; r++) {
+                    x.room(0, false);
+                }
+                int[] grew = {3, 1, 2, 0, 7, 4, room % 5, 6, 5};
+                for (int c = 0; c < 9; c++) {
+                    x.child(c < 5 ? room : other, 1, 0);
+                    tell(x, c, 0, 100, 1, 100 + grew[c]);
+                    x.word(c, named >> c & 1);
+                }
+                int[] ways = waysInTwoRooms(grew, 5, named);
+                due.is("anew", x.effect(0, 1, 1), 1);
+                isBy("anew in rooms " + room + " and " + other + " of " + named, x, ways[0], ways[1]);
+            }
+        }
+    }
+
+    /** As ways; the first ones are in one ROOM, the others in another. */
+    private static int[] waysInTwoRooms(int[] grew, int first, int named) {
+        int all = 0;
+        int asMuch = 0;
+        int low = (1 << first) - 1;
+        for (int set = 0; set < 1 << grew.length; set++) {
+            int more = 0;
+            for (int i = 0; i < grew.length; i++) {
+                more += ((set >> i & 1) - (named >> i & 1)) * grew[i];
+            }
+            if (Integer.bitCount(set & low) == Integer.bitCount(named & low)
+                    && Integer.bitCount(set & ~low) == Integer.bitCount(named & ~low)) {
+                all++;
+                asMuch += more >= 0 ? 1 : 0;
+            }
+        }
+        return new int[] {asMuch, all};
     }
 
     /** Twenty that grew 200, one that grew 199, others that fell by 200: one way alone, the others one less. */
@@ -335,7 +424,7 @@ public final class GrownEdgesTest {
         due.is("anew", x.effect(0, 1, 1), 1);
         due.fraction("one less: 1 and 20 ways", x, 1, 137846528820L / 21);
         due.is("by the others, too", x.effect(1, 0, 1), 1);
-        due.is("the other way nearly all come up to it", x.lower() - x.upper() > 0 ? 1 : 0, 1);
+        due.fraction("the other way all but one come up to it", x, 137846528819L, 137846528820L);
         due.is("the other way nearly all come up to it", x.sure(), 999);
     }
 
@@ -391,6 +480,38 @@ public final class GrownEdgesTest {
                 due.is("room by room " + n + " " + named, x.effect(0, 1, 2), split ? 1 : 0);
                 if (split) {
                     isBy("room by room " + n + " " + named, x, ways[0], ways[1]);
+                }
+            }
+        }
+    }
+
+    /** ROOMS without READ ones before, between and behind the others are of no set. */
+    private static void roomsWithoutReadOnes() {
+        for (int there = 0; there < 64; there++) {
+            int many = Integer.bitCount(there);
+            for (int named = 0; named < 1 << many; named++) {
+                BloomRooms x = new BloomRooms();
+                int[] mean = new int[many];
+                int place = 0;
+                for (int r = 0; r < 6; r++) {
+                    x.room(0, false);
+                    int child = x.child(r, 1, 0);
+                    x.tell(child, 0, 100);
+                    if ((there >> r & 1) == 1) {
+                        x.word(child, named >> place & 1);
+                        x.tell(child, 1, 100 + 7 * r % 5);
+                        mean[place] = 7 * r % 5;
+                        place++;
+                    } else {
+                        x.word(child, 1);
+                    }
+                }
+                int[] ways = ways(mean, named);
+                boolean split = named > 0 && named < (1 << many) - 1;
+                String call = "rooms " + Integer.toBinaryString(there) + " named " + Integer.toBinaryString(named);
+                due.is(call, x.effect(0, 1, 2), split ? 1 : 0);
+                if (split) {
+                    isBy(call, x, ways[0], ways[1]);
                 }
             }
         }
@@ -474,6 +595,40 @@ public final class GrownEdgesTest {
         due.is("the last of all", x.looks(1), 45);
     }
 
+    /** Three groups of twelve or thirteen children, some named: ANEW of each is by hundreds of ways. */
+    private static void bestOfGreatNumbers() {
+        int n = 1;
+        for (int round = 0; round < 60; round++) {
+            BloomRooms x = children(0);
+            int child = 0;
+            int best = -1;
+            int[] least = {1, 1};
+            for (int g = 0; g < 3; g++) {
+                int[] grew = new int[12 + (round + g) % 2];
+                int named = 0;
+                for (int i = 0; i < grew.length; i++, child++) {
+                    n = 1103515245 * n + 12345;
+                    grew[i] = (n >>> 16) % 40;
+                    boolean isNamed = (n >>> 24) % 3 == g % 2 && i > 0 || i == 1;
+                    named |= isNamed ? 1 << i : 0;
+                    x.child(0, 1, 0);
+                    tell(x, child, 2 * g, 100, 2 * g + 1, 100 + grew[i]);
+                    x.word(child, isNamed ? 1 : 0);
+                }
+                int[] ways = ways(grew, named);
+                x.effect(2 * g, 2 * g + 1, 1);
+                isBy("anew " + round + " " + g, x, ways[0], ways[1]);
+                if (best < 0 || (long) ways[0] * least[1] < (long) least[0] * ways[1]) {
+                    best = 20 * g + 2 * g + 1;
+                    least = ways;
+                }
+            }
+            due.is("best of great numbers " + round, x.looks(1), best);
+            x.paid();
+            isBy("paid " + round, x, Math.min(3 * least[0], least[1]), least[1]);
+        }
+    }
+
     private static void fifteenLooks() {
         BloomRooms x = children(40);
         x.word(39, 1);
@@ -486,6 +641,17 @@ public final class GrownEdgesTest {
         due.is("best", x.looks(1), 1);
         x.paid();
         due.fraction("15 times 1 by 40", x, 3, 8);
+        for (int c = 0; c < 40; c++) {
+            x.word(c, 1);
+        }
+        due.is("no looks without others", x.looks(0), 0);
+        due.is("no best", x.looks(1), -1);
+        due.is("not paid", x.paid(), 0);
+        due.fraction("not paid", x, 0, 0);
+        for (int c = 0; c < 39; c++) {
+            x.word(c, 2);
+        }
+        due.is("looks with others", x.looks(0), 15);
         for (int test = 0; test < 6; test++) {
             x.tell(39, test, -1);
         }

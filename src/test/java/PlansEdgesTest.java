@@ -1,3 +1,5 @@
+import java.math.BigInteger;
+
 /** FILMS against what was read, slopes of TRIALS, KEPT LAWS and what a school may be told: each at its edges. */
 public final class PlansEdgesTest {
     private static final Due due = new Due();
@@ -6,13 +8,16 @@ public final class PlansEdgesTest {
         hairWithoutEither();
         carriedByWays();
         enough();
+        enoughOfGreatNumbers();
         enoughWithoutEither();
         sameWithoutEither();
         curvesWithoutOne();
         curveByLeastSquares();
         edges();
+        edgesOfGreatNumbers();
         edgesWithoutOne();
         fitsByNoise();
+        fitsOfReadOnesAlone();
         foretoldByYears();
         foretoldByForgetting();
         likelyIsTheFirst();
@@ -121,6 +126,47 @@ public final class PlansEdgesTest {
                     isEnough ? 1 : 0);
             due.fraction("the fraction stays", x, 0, 0);
         }
+    }
+
+    /** CARRIED of two ways by hundreds against an EFFECT by hundreds; most of them lie close together. */
+    private static void enoughOfGreatNumbers() {
+        int n = 77;
+        int[] answers = new int[2];
+        for (int round = 0; round < 300; round++) {
+            int[] seen = new int[24];
+            for (int i = 0; i < 24; i++) {
+                n = 1103515245 * n + 12345;
+                seen[i] = (n >>> 16) % 100;
+            }
+            int grows = Math.max(1, seen[0]);
+            BloomRooms x = new BloomRooms();
+            Due.say(x, 0, "warmth gives 0 grows " + grows + ";harder gives 0 grows 99;");
+            // five named and six others of one way, three named and ten others of another
+            int[] sum = new int[4];
+            for (int i = 0; i < 24; i++) {
+                int part = i < 5 ? 0 : i < 11 ? 1 : i < 14 ? 2 : 3;
+                x.film(part < 2 ? 0 : 2, part % 2 == 0, seen[i]);
+                sum[part] += seen[i];
+            }
+            long upper = grows * (6L * sum[0] - 5 * sum[1]) + 99L * (10 * sum[2] - 3 * sum[3]);
+            long lower = 3000;
+            int near = (int) Math.max(-190, Math.min(190, Math.floorDiv(upper, lower)));
+            x.room(0, false);
+            add(x, 1, near);
+            int others = 7 + round % 12;
+            int all = 0;
+            for (int i = 0; i < others; i++) {
+                int other = i < round % 7 ? -1 : 0;
+                add(x, 0, other);
+                all += other;
+            }
+            boolean isEnough = upper * others >= lower * ((long) near * others - all);
+            answers[isEnough ? 1 : 0]++;
+            due.is("enough of great numbers " + round, x.enough(0, 1), isEnough ? 1 : 0);
+            due.is("carried", x.carried(), 1);
+            due.is("carried " + round, x.upper() * lower, upper * x.lower());
+        }
+        due.is("some are enough, some aren't", Math.min(answers[0], answers[1]) > 50 ? 1 : 0, 1);
     }
 
     private static void enoughWithoutEither() {
@@ -239,6 +285,74 @@ public final class PlansEdgesTest {
         }
     }
 
+    /** Up to 20 TRIALS of great sizes: the slopes without one of them lie close together, by great numbers. */
+    private static void edgesOfGreatNumbers() {
+        int n = 5;
+        for (int round = 0; round < 200; round++) {
+            int many = 3 + round % 18;
+            int[][] trials = new int[many][4];
+            BloomRooms x = new BloomRooms();
+            for (int[] one : trials) {
+                for (int k = 0; k < 4; k++) {
+                    n = 1103515245 * n + 12345;
+                    one[k] = (n >>> 16) % new int[] {21, 1999, 999, 2}[k];
+                }
+                one[1] = round % 3 == 0 ? one[1] % 5 : one[1] - 999;
+                one[2] = round % 2 == 0 ? one[2] % 20 + 980 : one[2] + 1;
+                x.trial(one[0], one[1], one[2], one[3] == 1);
+            }
+            edge(x, "edges of great numbers " + round, trials, false);
+            edge(x, "edges of great printed numbers " + round, trials, true);
+        }
+    }
+
+    private static void edge(BloomRooms x, String call, int[][] trials, boolean printed) {
+        BigInteger[] least = null;
+        BigInteger[] most = null;
+        for (int without = 0; without < trials.length; without++) {
+            BigInteger[] one = slope(trials, printed, without);
+            if (printed && trials[without][3] == 0 || one[1].signum() == 0) {
+                continue;
+            }
+            least = least == null || times(one, least) < 0 ? one : least;
+            most = most == null || times(one, most) > 0 ? one : most;
+        }
+        is(call + " least", x.edge(printed, false), x, least);
+        is(call + " most", x.edge(printed, true), x, most);
+    }
+
+    private static int times(BigInteger[] one, BigInteger[] other) {
+        return one[0].multiply(other[1]).compareTo(other[0].multiply(one[1]));
+    }
+
+    private static void is(String call, int answer, BloomRooms x, BigInteger[] wanted) {
+        due.is(call, answer, wanted == null ? 0 : 1);
+        BigInteger divisor = wanted == null ? BigInteger.ONE : wanted[0].gcd(wanted[1]);
+        due.fraction(call, x, wanted == null ? 0 : wanted[0].divide(divisor).longValueExact(),
+                wanted == null ? 0 : wanted[1].divide(divisor).longValueExact());
+    }
+
+    /** As the document writes it. */
+    private static BigInteger[] slope(int[][] trials, boolean printed, int without) {
+        long w = 0;
+        long sizeWeeks = 0;
+        long sizeEffect = 0;
+        long sizeBoth = 0;
+        long sizeSquared = 0;
+        for (int i = 0; i < trials.length; i++) {
+            if (i != without && (!printed || trials[i][3] == 1)) {
+                long size = trials[i][2];
+                w += size;
+                sizeWeeks += size * trials[i][0];
+                sizeEffect += size * trials[i][1];
+                sizeBoth += size * trials[i][0] * trials[i][1];
+                sizeSquared += size * trials[i][0] * trials[i][0];
+            }
+        }
+        return new BigInteger[] {BigInteger.valueOf(w * sizeBoth - sizeWeeks * sizeEffect),
+            BigInteger.valueOf(w * sizeSquared - sizeWeeks * sizeWeeks)};
+    }
+
     private static void edgesWithoutOne() {
         for (int many = 0; many < 4; many++) {
             BloomRooms x = new BloomRooms();
@@ -289,6 +403,30 @@ public final class PlansEdgesTest {
             x.tell(4, 3, 107 - 2 * noise);
             due.is("by noise " + noise, x.fits(0, 2, 3), 3);
         }
+    }
+
+    /** Those with POINTS in both, for whom no RULE's TEST holds, by their POINTS in the first one. */
+    private static void fitsOfReadOnesAlone() {
+        BloomRooms x = grown(5, 5, 5);
+        Due.say(x, 0, "noise 20;");
+        x.keep(2);
+        due.is("all", x.fits(2, 0, 1), 3);
+        x.tell(0, 0, -1);
+        x.tell(0, 1, 5);
+        due.is("one without points in a", x.fits(2, 0, 1), 2);
+        due.is("one without points in b", x.fits(2, 1, 0), 2);
+        x.tell(1, 1, 110);
+        Due.say(x, 1, "out if above 109;");
+        due.is("by the points in a", x.fits(2, 0, 1), 2);
+        due.is("by the points in a, the other way", x.fits(2, 1, 0), 1);
+        Due.say(x, 0, "noise 2;");
+        x.keep(0);
+        due.is("by read ones alone", x.likely(1, 0), 2);
+        x.tell(2, 1, 102);
+        due.is("by read ones alone", x.likely(1, 0), 0);
+        Due.say(x, 1, "out if room 0;");
+        due.is("none", x.fits(2, 0, 1), 0);
+        due.is("none: the first kept one", x.likely(0, 1), 0);
     }
 
     /** The YEARS from that of a on, below that of b; none, if b isn't later. */

@@ -16,6 +16,11 @@ final class Schools {
      * 1, ROWS 0 to 2, IMAGE 1 of an earlier state, a FRACTION, a FAULT of 3 at 5, twenty bytes on THE TAPE.
      */
     static BloomRooms some() {
+        return without("");
+    }
+
+    /** The same, but made without a call, as far as that can be: so it is the first one of its kind that comes then. */
+    static BloomRooms without(String call) {
         BloomRooms x = new BloomRooms();
         x.room(2, false);
         x.room(0, true);
@@ -25,33 +30,71 @@ final class Schools {
         x.child(1, 4, 80);
         Due.say(x, 0, "named moves 20;true moves -30;known 5;warmth gives 5 grows 50;gift 3;noise 1;");
         Due.say(x, 1, "out if grade 4 and above 100;");
-        x.word(0, 1);
-        x.image(1);
-        x.word(2, 2);
-        x.give(0, 1, false);
-        x.year();
-        x.give(1, 2, false);
-        x.tell(3, 2, 9);
-        x.gone(3);
-        x.film(0, true, 9);
-        x.film(0, false, 4);
-        x.film(1, false, 7);
-        x.film(1, true, 3);
-        x.mark(0, 0, 40);
-        x.mark(1, 0, 55);
-        x.trial(0, 40, 1, true);
-        x.trial(2, 0, 3, true);
-        x.trial(5, -7, 2, false);
-        x.keep(1);
-        x.row(0, 1, 4);
-        x.write(0, 1, 90);
-        x.row(1, 0, 3);
-        x.row(2, 2, 5);
-        x.write(2, 3, 201);
+        if (call.equals("word")) {
+            x.deal(false, 1, 5);
+        } else {
+            x.word(0, 1);
+        }
+        if (!call.equals("image")) {
+            x.image(1);
+        }
+        if (!call.equals("word")) {
+            x.word(2, 2);
+        }
+        test(x, call, 0, 1, 51, 59, 69, 79);
+        if (!call.equals("year")) {
+            x.year();
+        }
+        test(x, call, 1, 2, 57, 64, 67, 83);
+        if (!call.equals("tell")) {
+            x.tell(3, 2, 9);
+        }
+        if (!call.equals("gone")) {
+            x.gone(3);
+        }
+        filmsMarksTrials(x, call);
+        if (!call.equals("keep")) {
+            x.keep(1);
+        }
+        if (!call.equals("row")) {
+            x.row(0, 1, 4);
+            x.write(0, 1, 90);
+            x.row(1, 0, 3);
+            x.row(2, 2, 5);
+            x.write(2, 3, 201);
+        }
         Due.say(x, 0, "gift 51;");
         x.effect(0, 1, 0);
         Due.feed(x, TAPE);
         return x;
+    }
+
+    private static void filmsMarksTrials(BloomRooms x, String call) {
+        if (!call.equals("film")) {
+            x.film(0, true, 9);
+            x.film(0, false, 4);
+            x.film(1, false, 7);
+            x.film(1, true, 3);
+        }
+        if (!call.equals("mark")) {
+            x.mark(0, 0, 40);
+            x.mark(1, 0, 55);
+        }
+        if (!call.equals("trial")) {
+            x.trial(0, 40, 1, true);
+            x.trial(2, 0, 3, true);
+            x.trial(5, -7, 2, false);
+        }
+    }
+
+    private static void test(BloomRooms x, String without, int test, int seed, int... points) {
+        if (!without.equals("give")) {
+            x.give(test, seed, false);
+            return;
+        }
+        for (int c = 0; c < points.length; c++) {
+            x.tell(c, test, points[c]);
+        }
     }
 
     /** As many ROOMS, CHILDREN, YEARS, FILMS, MARKS, TRIALS, numbers of a ROW and bytes on THE TAPE as can be. */

@@ -14,6 +14,11 @@ final class Seen {
     }
 
     static Map<String, Long> of(BloomRooms x) {
+        return of(x, Math.max(0, x.count(1) - 1));
+    }
+
+    /** What is seen of CHILDREN is that of the first three and of one more. */
+    static Map<String, Long> of(BloomRooms x, int last) {
         Seen seen = new Seen(x);
         seen.fraction("latest", 1);
         for (int what = 1; what <= 7; what++) {
@@ -22,7 +27,6 @@ final class Seen {
         seen.put("fault", x.fault(0));
         seen.put("place", x.fault(1));
         seen.put("bytes", x.count(8));
-        int last = Math.max(0, x.count(1) - 1);
         seen.counts("");
         for (int c : new int[] {0, 1, 2, last}) {
             seen.child(c);
@@ -123,7 +127,11 @@ final class Seen {
 
     private void image(int i, int last) {
         String name = "image " + i + " ";
-        put(name, x.restore(i));
+        int answer = x.restore(i);
+        put(name, answer);
+        if (answer < 0) {
+            return;
+        }
         counts(name);
         for (int c : new int[] {0, last}) {
             for (int what = 2; what <= 6; what++) {

@@ -9,6 +9,9 @@ public final class YearsTest {
         told();
         dealByChildren();
         dealByRooms();
+        dealtByWord();
+        roomsWithoutSuchChildren();
+        fewerChildrenThanRooms();
         due.end();
     }
 
@@ -209,6 +212,93 @@ public final class YearsTest {
             }
             due.is("named", x.count(9), named);
             due.is("deal again", x.deal(true, many, 31 * many), named);
+        }
+    }
+
+    /** Those with no WORD or named are dealt to; each other WORD stays, and takes no DRAW and no place. */
+    private static void dealtByWord() {
+        for (int word = 0; word <= 5; word++) {
+            BloomRooms x = new BloomRooms();
+            x.room(0, false);
+            for (int c = 0; c < 3; c++) {
+                x.child(0, 1, 0);
+            }
+            boolean dealt = word < 2;
+            String with = "with word " + word;
+            x.word(0, word);
+            due.is(with + " named", x.deal(false, 3, 1), dealt ? 3 : 2);
+            due.is(with + " named", x.of(0, 3), dealt ? 1 : word);
+            x.word(0, word);
+            due.is(with + " not named", x.deal(false, 0, 1), 0);
+            due.is(with + " not named", x.of(0, 3), dealt ? 0 : word);
+            x.word(0, word);
+            due.is(with + " in a named room", x.deal(true, 1, 1), dealt ? 3 : 2);
+            due.is(with + " in a named room", x.of(0, 3), dealt ? 1 : word);
+            x.word(0, word);
+            due.is(with + " in another room", x.deal(true, 0, 1), 0);
+            due.is(with + " in another room", x.of(0, 3), dealt ? 0 : word);
+            for (int seed = 0; seed < 40; seed++) {
+                x.word(0, word);
+                x.deal(false, 1, seed);
+                int n = seed;
+                boolean open = true;
+                for (int c = dealt ? 0 : 1; c < 3; c++) {
+                    n = next(n);
+                    boolean named = open && draw(n) % (3 - c) < 1;
+                    open = open && !named;
+                    due.is(with + " child " + c + " by " + seed, x.of(c, 3), named ? 1 : 0);
+                }
+            }
+        }
+    }
+
+    /** Of all ROOMS so many are named: those without CHILDREN that can be dealt to are among them. */
+    private static void roomsWithoutSuchChildren() {
+        for (int there = 0; there < 32; there++) {
+            for (int many = 0; many <= 5; many++) {
+                BloomRooms x = new BloomRooms();
+                for (int r = 0; r < 5; r++) {
+                    x.room(0, false);
+                }
+                for (int r = 0; r < 5; r++) {
+                    x.child(r, 1, 0);
+                    if ((there >> r & 1) == 0) {
+                        x.word(r, r % 2 == 0 ? 5 : 0);
+                        x.gone(r);
+                    }
+                }
+                int n = 100 * many + there;
+                int open = many;
+                int named = 0;
+                int answer = x.deal(true, many, n);
+                for (int r = 0; r < 5; r++) {
+                    n = next(n);
+                    boolean isNamed = draw(n) % (5 - r) < open;
+                    open -= isNamed ? 1 : 0;
+                    boolean can = (there >> r & 1) == 1;
+                    named += can && isNamed ? 1 : 0;
+                    int word = can ? isNamed ? 1 : 0 : r % 2 == 0 ? 5 : 0;
+                    due.is("rooms " + there + " many " + many + " child " + r, x.of(r, 3), word);
+                }
+                due.is("rooms " + there + " many " + many, answer, named);
+            }
+        }
+    }
+
+    /** In each of 18 ROOMS, though there is but one CHILD, or two. */
+    private static void fewerChildrenThanRooms() {
+        for (int room = 0; room < 18; room++) {
+            BloomRooms x = new BloomRooms();
+            for (int r = 0; r < 18; r++) {
+                x.room(0, false);
+            }
+            x.child(room, 1, 0);
+            due.is("the one in room " + room, x.deal(false, 1, room), 1);
+            due.is("not the one in room " + room, x.deal(false, 0, room), 0);
+            due.is("all rooms, that of room " + room, x.deal(true, 18, room), 1);
+            x.child(17 - room, 1, 0);
+            due.is("both", x.deal(false, 1, room), 2);
+            due.is("neither", x.deal(true, 0, room), 0);
         }
     }
 }
